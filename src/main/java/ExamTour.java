@@ -177,10 +177,7 @@ public final class ExamTour {
             && isWithin(grade, 1, MOST_GRADES) && isWithin(instrument, 0, MOST_INSTRUMENT)
             && isWithin(age, LEAST_AGE, MOST_AGE)
             && (teacher == NONE || circuit.hasExaminer(teacher));
-        if (!can || entries.count >= MOST_ENTRIES) {
-            return NONE;
-        }
-        return entries.add(candidate, term, grade, instrument, age, teacher);
+        return can ? entries.add(candidate, term, grade, instrument, age, teacher) : NONE;
     }
 
     public int piece(int entry, long name) {
@@ -868,10 +865,6 @@ public final class ExamTour {
         }
 
         private void readE(Grade grade, int depth) {
-            if (depth >= MOST_DEPTH) {
-                refuse();
-                return;
-            }
             readBoth(grade, depth);
             for (int i = 0; i < MOST_BYTES && fault == 0 && tape.kind == OR; i++) {
                 tape.next();
@@ -889,6 +882,7 @@ public final class ExamTour {
             }
         }
 
+        /** Each e and each not comes by here, so this one look keeps all from going too deep. */
         private void readOne(Grade grade, int depth) {
             if (depth >= MOST_DEPTH) {
                 refuse();
@@ -1300,7 +1294,6 @@ public final class ExamTour {
         int plan(Circuit circuit) {
             orderByDay(circuit);
             count = 1;
-            where[0] = 0;
             worth[0] = 0;
             for (int at = 0; at < circuit.sessions; at++) {
                 int day = circuit.days[order[at]];

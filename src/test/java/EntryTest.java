@@ -120,6 +120,12 @@ public final class EntryTest {
         }
         Due.is("all", other.judge(0), -1);
         Due.is("another age", other.judge(1), 3);
+        ExamTour own = new ExamTour();
+        Due.read(own, 0, "grade 1{list a=x;must own=1;}");
+        own.entry(0, 0, 1, 0, 9, -1);
+        own.piece(0, Due.name("v"));
+        own.piece(0, Due.name("x"));
+        Due.is("the first is its own", own.judge(0), -1);
         other.piece(0, Due.name("v"));
         Due.is("two of its own", other.judge(0), 1);
     }

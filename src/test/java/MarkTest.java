@@ -101,6 +101,14 @@ public final class MarkTest {
         Due.is("untelling makes no room", office.untell(0), true);
         Due.is("a 201st", office.mark(0, 0, 0, 1), -1);
         Due.is("marks", office.about(5), 200);
+        Due.is("untell(200)", office.untell(200), false);
+        Due.is("main of one without marks", office.main(1, 0), -1);
+        Due.is("known of one without marks", office.known(1, 0, 0), -1);
+        Due.is("main", office.main(0, 0), 0);
+        office.session(0, 0);
+        office.put(1, 0);
+        Due.is("may", office.may(2, 0), 1);
+        Due.is("hardness", office.hardness(0), -1000);
     }
 
     private static void appeal() {

@@ -7,6 +7,7 @@ public final class ResultTest {
         notGood();
         words();
         textAsItIs();
+        fewerParts();
         wrongEntries();
         Due.close();
     }
@@ -127,6 +128,27 @@ public final class ResultTest {
         Due.is("no parts", office.result(0, 0), 1);
         Due.read(office, 0, "grade 2{}");
         Due.is("no grade", office.result(0, 0), -1);
+    }
+
+    /** Marks that were looked at for one entry must not be seen for another. */
+    private static void fewerParts() {
+        ExamTour office = office("grade 1{part a 9;part b 9;part c 9;}"
+            + "grade 2{part a 9;pass total=7 and least=7;}grade 3{pass total=0 and least=0;}"
+            + "grade 4{part a 9;part b 9;pass total=10 and least=4;}");
+        office.entry(1, 0, 2, 0, 9, -1);
+        office.entry(1, 0, 3, 0, 9, -1);
+        office.entry(1, 0, 4, 0, 9, -1);
+        for (int part = 0; part < 3; part++) {
+            office.mark(0, 0, part, 3);
+        }
+        office.mark(1, 0, 0, 7);
+        office.mark(3, 0, 0, 6);
+        office.mark(3, 0, 1, 4);
+        int[] due = {1, 1, 1, 1};
+        for (int entry = 3; entry >= 0; entry--) {
+            office.result(0, 0);
+            Due.is("result of " + entry, office.result(entry, 0), due[entry]);
+        }
     }
 
     private static void wrongEntries() {

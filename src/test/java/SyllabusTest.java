@@ -7,6 +7,7 @@ public final class SyllabusTest {
         mostOfAll();
         deepest();
         textsAreExchanged();
+        nothingOfAnOldText();
         Due.close();
     }
 
@@ -136,6 +137,34 @@ public final class SyllabusTest {
         office.entry(0, 0, 5, 0, 9, -1);
         Due.is("the last of many nots", office.judge(1), 0);
         Due.is("the one ahead of it", office.judge(2), -1);
+    }
+
+    /** What one text filled must not be seen, nor counted, in those read after it. */
+    private static void nothingOfAnOldText() {
+        ExamTour office = new ExamTour();
+        office.entry(0, 0, 1, 0, 9, -1);
+        office.piece(0, Due.name("l"));
+        office.piece(0, Due.name("m"));
+        office.piece(0, Due.name("n"));
+        StringBuilder full = new StringBuilder("grade 1{minutes 9;pass 1;merit 1;");
+        for (int i = 0; i < 6; i++) {
+            full.append("list l").append(i).append("=a,b,c,d,e,f,g,h,n,j,k,l;");
+            full.append("part p").append(i).append(" 9;");
+        }
+        full.append(Due.times(7, "must 1;")).append("must not not not 0").append(Due.times(140, "+0")).append(";}");
+        for (int turn = 0; turn < 5; turn++) {
+            Due.is("a full one", Due.read(office, 0, full.toString()), 1);
+            Due.is("lists", office.grade(0, 1, 0), 6);
+            Due.is("good", office.judge(0), -1);
+        }
+        for (int turn = 0; turn < 3; turn++) {
+            Due.is("a small one", Due.read(office, 0, "grade 1{list x=m;must x=1;must own=2;must 0;}"), 1);
+            Due.is("lists", office.grade(0, 1, 0), 1);
+            Due.is("parts", office.grade(0, 1, 1), 0);
+            Due.is("musts", office.grade(0, 1, 2), 3);
+            Due.is("minutes", office.grade(0, 1, 3), 10);
+            Due.is("its pieces alone", office.judge(0), 2);
+        }
     }
 
     private static void textsAreExchanged() {

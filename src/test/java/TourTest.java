@@ -9,6 +9,7 @@ public final class TourTest {
         theFirstOfAlike();
         laterDaysTurnTheFirst();
         noneTwoOnADay();
+        theLastOfAll();
         latestTour();
         againstAllTours();
         Due.close();
@@ -154,6 +155,29 @@ public final class TourTest {
         chosen(office, 4, 3, 2, 1, 0, -1);
         office.session(0, 41);
         Due.is("nor with other days", office.tour(), -2);
+    }
+
+    /** The last of all ways to give five sessions of a day to five examiners is the best. */
+    private static void theLastOfAll() {
+        ExamTour office = centres(5);
+        for (int a = 0; a < 5; a++) {
+            for (int b = 0; b < a; b++) {
+                office.way(a, b, 50);
+            }
+        }
+        for (int i = 0; i < 5; i++) {
+            office.examiner(i, 0);
+        }
+        for (int i = 0; i < 5; i++) {
+            office.session(4 - i, 7);
+        }
+        Due.is("each at home", office.tour(), 0);
+        chosen(office, 4, 3, 2, 1, 0);
+        for (int i = 0; i < 4; i++) {
+            office.session(i, 8);
+        }
+        Due.is("and on", office.tour(), 0);
+        chosen(office, 4, 3, 2, 1, 0, 0, 1, 2, 3);
     }
 
     private static void latestTour() {
