@@ -192,6 +192,8 @@ public final class FaultTest {
         Due.bad("grade 1{merit 1+" + Due.times(8, "(") + "^?" + Due.times(8, ")") + ";}", 1);
         Due.bad("grade 1{merit 1+" + Due.times(8, "(") + "^", 2);
         Due.bad("grade 1{must " + Due.times(7, "(") + "1" + Due.times(6, ")") + "^;}", 2);
+        Due.bad("grade 1{must " + Due.times(8, "(") + "^" + Due.times(8, ")") + ";}", 2);
+        Due.bad("grade 1{must " + Due.times(8, "not ") + "^;}", 2);
     }
 
     private static void tooManyLeaves() {

@@ -148,7 +148,7 @@ public final class SyllabusTest {
         office.piece(0, Due.name("n"));
         StringBuilder full = new StringBuilder("grade 1{minutes 9;pass 1;merit 1;");
         for (int i = 0; i < 6; i++) {
-            full.append("list l").append(i).append("=a,b,c,d,e,f,g,h,n,j,k,l;");
+            full.append("list l").append(i).append("=n,l,c,d,e,f,g,h,i,j,k,b;");
             full.append("part p").append(i).append(" 9;");
         }
         full.append(Due.times(7, "must 1;")).append("must not not not 0").append(Due.times(140, "+0")).append(";}");
