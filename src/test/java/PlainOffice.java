@@ -69,7 +69,7 @@ final class PlainOffice {
 
     record Told(int entry, int by, int part, int marks, int day, int[] untold) {
         boolean known(int k) {
-            return day <= k && untold[0] > k;
+            return day <= k && (untold[0] == NEVER || untold[0] > k);
         }
     }
 
