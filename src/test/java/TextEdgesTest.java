@@ -18,6 +18,7 @@ public final class TextEdgesTest {
         wordsOfRules();
         deepRules();
         longRules();
+        valuesOfRules();
         largestSums();
         Due.close();
     }
@@ -273,6 +274,21 @@ public final class TextEdgesTest {
         Due.good(most + "list a=b,c;part d 150;minutes 15;}grade 3{}", 3);
         new Run("150 of each text").read(0, most + "}", 2).read(0, most + "}", 2).read(1, most + "must 1;}", -1)
             .read(1, most + "}", 2).due("about(11)", 2);
+    }
+
+    private static void valuesOfRules() {
+        String[] ones = {"1<2", "2>1", "2=2", "0-1<0", "0>0-1", "0-1=1-2", "not 0", "not not 5", "5 and 0-5", "5 or 0",
+            "0 or 0-5", "5 or 5", "1 or 1 and 0", "not 1 or 1", "2 and 2 and 2", "not 1<1"};
+        String[] zeros = {"1<1", "2<1", "1>1", "1>2", "1=2", "not 1", "not 5", "not 0-1", "0 and 5", "5 and 0", "0 or 0",
+            "0 and 1 or 0", "not 0 and 0", "not 1+0", "1-1", "0"};
+        for (String e : ones) {
+            new Run("< > = not and or give 1: " + e).read(0, "grade 1{must (" + e + ")=1;must " + e + ";}", 1)
+                .call("entry(0, 0, 1, 0, 9, -1)").due("judge(0)", -1);
+        }
+        for (String e : zeros) {
+            new Run("< > = not and or give 0: " + e).read(0, "grade 1{must (" + e + ")=0;must " + e + ";}", 1)
+                .call("entry(0, 0, 1, 0, 9, -1)").due("judge(0)", 1);
+        }
     }
 
     /** As large as 150 numbers can make them, sums are still far from where ints wrap. */
